@@ -362,12 +362,13 @@ public final class FusedQueries {
                 addCode(stage, token);
                 operandDue = false;
             } else if (token == CLOSE) {
-                // The bracket itself has rank 0, so that what stands above it goes out first.
+                // The opening bracket has rank 0: the operators stop at it, and it goes then.
                 open = addOperators(stage, open, 1);
                 open = open > 0 ? open - 1 : 0;
             } else {
                 int operator = token == MINUS && operandDue ? NEGATE : token;
-                if (rank(operator) >= 1 && operator != NEGATE) {
+                boolean endsOperand = operator != NEGATE && operator != OPEN;
+                if (endsOperand) {
                     int least = rank(operator);
                     open = addOperators(stage, open, least);
                 }
