@@ -1,116 +1,7 @@
-import java.util.ArrayList;
-import java.util.List;
-
 /** For each promise: ordinary inputs, the edges that the document names, and wrong inputs. */
-public final class PromiseTests {
-    private static final int COUNT = 0, SUM = 1, AT = 2, ANY = 3, LAST = 4, LEAST = 5, GREATEST = 6, DIGEST = 7, LIST = 8;
-    private static final int WHERE = 0, SELECT = 1, TAKE = 2, SKIP = 3, WHILE = 4, AFTER = 5, REPEAT = 6, SPREAD = 7,
-        DISTINCT = 8, THEN = 9, ZIP = 10, MATCH = 11, SCAN = 12, PAIRS = 13, SORTED = 14, REVERSED = 15, GROUPS = 16;
-    private static final int REFUSED = FusedQueries.REFUSED, FULL = FusedQueries.FULL, WRONG = FusedQueries.WRONG;
-    private static final long NONE = FusedQueries.NONE, STOPPED = FusedQueries.STOPPED, FAILED = FusedQueries.FAILED;
-    private static final int MIN = Integer.MIN_VALUE, MAX = Integer.MAX_VALUE;
-
-    private static String promise = "";
-    private static int wrong = 0;
-    private static int asked = 0;
-
-    private static void due(String what, Object got, Object want) {
-        asked++;
-        if (!got.toString().equals(want.toString())) {
-            wrong++;
-            System.out.println(promise + ": " + what + " answered " + got + ", due is " + want);
-        }
-    }
-
-    // ---- a short way to write pipelines ----
-
-    private static int[] ints(int... values) {
-        return values;
-    }
-
-    private static FusedQueries within(int limit, int[]... lists) {
-        FusedQueries q = new FusedQueries(limit);
-        for (int list = 0; list < lists.length; list++) {
-            for (int value : lists[list]) {
-                q.append(list, value);
-            }
-        }
-        return q;
-    }
-
-    private static FusedQueries over(int... values) {
-        return within(150, values);
-    }
-
-    private static List<Integer> tokens(String text) {
-        List<Integer> tokens = new ArrayList<>();
-        for (int i = 0; i < text.length(); i++) {
-            if (Character.isDigit(text.charAt(i))) {
-                int from = i;
-                while (i + 1 < text.length() && Character.isDigit(text.charAt(i + 1))) {
-                    i++;
-                }
-                tokens.add(1000 + Integer.parseInt(text.substring(from, i + 1)));
-            } else {
-                tokens.add(1 + "xyk+-*/%<=&()".indexOf(text.charAt(i)));
-            }
-        }
-        return tokens;
-    }
-
-    private static int put(FusedQueries q, String text) {
-        int pending = q.put(0, 0, 0);
-        for (int token : tokens(text)) {
-            pending = q.put(token, 0, 0);
-        }
-        return pending;
-    }
-
-    private static int stage(FusedQueries q, int kind, int c, String text) {
-        put(q, text);
-        return q.stage(kind, c);
-    }
-
-    private static FusedQueries with(FusedQueries q, int kind, int c, String text) {
-        due("stage " + kind + " " + c + " " + text, stage(q, kind, c, text) > 0, true);
-        return q;
-    }
-
-    private static String name(long answer) {
-        return answer == NONE ? "NONE" : answer == STOPPED ? "STOPPED" : answer == FAILED ? "FAILED" : "" + answer;
-    }
-
-    /** A LIST 16: its answer, if that is not how many there are, and the elements. */
-    private static String list(FusedQueries q, int length) {
-        String answer = name(q.run(LIST, 16));
-        StringBuilder text = new StringBuilder(answer).append(':');
-        for (int k = 0; k < length; k++) {
-            text.append(' ').append(q.seen(k));
-        }
-        return text.toString();
-    }
-
-    private static String costs(FusedQueries q, int stages) {
-        StringBuilder text = new StringBuilder("applied");
-        for (int s = 0; s < stages; s++) {
-            text.append(' ').append(q.applied(s));
-        }
-        text.append(", read");
-        for (int l = 0; l < 3; l++) {
-            text.append(' ').append(q.read(l));
-        }
-        return text.toString();
-    }
-
-    private static long value(String text, int x) {
-        FusedQueries q = with(over(x), SELECT, 0, text);
-        return q.run(LAST, 0);
-    }
-
-    // ---- the promises ----
-
+public final class PromiseTests extends Bench {
     private static void newObject() {
-        promise = "promise 1";
+        about("promise 1");
         FusedQueries q = new FusedQueries(100);
         for (int l = 0; l < 3; l++) {
             due("clear", q.clear(l), 0);
@@ -145,7 +36,7 @@ public final class PromiseTests {
     }
 
     private static void append() {
-        promise = "promise 2";
+        about("promise 2");
         FusedQueries q = new FusedQueries(150);
         due("no list", q.append(3, 1), REFUSED);
         due("no list", q.append(-1, 1), REFUSED);
@@ -167,7 +58,7 @@ public final class PromiseTests {
     }
 
     private static void set() {
-        promise = "promise 3";
+        about("promise 3");
         FusedQueries q = within(150, ints(5, -1, MIN, 1 << 30), ints(9));
         due("set", q.set(0, 0, 6), 5);
         due("a negative one", q.set(0, 1, 7), 0x3FFFFFFF);
@@ -186,7 +77,7 @@ public final class PromiseTests {
     }
 
     private static void clear() {
-        promise = "promise 4";
+        about("promise 4");
         FusedQueries q = within(150, ints(1, 2, 3), ints(4));
         due("no list", q.clear(3), REFUSED);
         due("no list", q.clear(-1), REFUSED);
@@ -203,7 +94,7 @@ public final class PromiseTests {
     }
 
     private static void put() {
-        promise = "promise 5";
+        about("promise 5");
         FusedQueries q = new FusedQueries(150);
         due("none", q.put(0, 0, 0), 0);
         due("one", q.put(0, 1, 0), 1);
@@ -239,7 +130,7 @@ public final class PromiseTests {
     }
 
     private static void from() {
-        promise = "promise 6";
+        about("promise 6");
         FusedQueries q = within(150, ints(1, 2), ints(3, 4, 5), ints(6));
         due("from", q.from(1), 0);
         with(q, TAKE, 2, "");
@@ -260,7 +151,7 @@ public final class PromiseTests {
     }
 
     private static void stages() {
-        promise = "promise 7";
+        about("promise 7");
         boolean[] has = {true, true, false, false, true, true, false, true, false, false, true, false, true, false, true, false, true};
         for (int kind = -2; kind <= 18; kind++) {
             for (int c = -2; c <= 6; c++) {
@@ -304,7 +195,7 @@ public final class PromiseTests {
     }
 
     private static void place() {
-        promise = "promise 8";
+        about("promise 8");
         String[][] wrongs = {
             {"", "0"}, {"-", "1"}, {"--", "2"}, {"+", "0"}, {"*x", "0"}, {")", "0"}, {"x)", "1"}, {"(", "1"}, {"(x", "2"}, {"()", "1"},
             {"x x", "1"}, {"x1", "1"}, {"1 2", "1"}, {"x(", "1"}, {"(x)(x)", "3"}, {"x+", "2"}, {"x+*", "2"}, {"x-+1", "2"}, {"x<", "2"},
@@ -345,7 +236,7 @@ public final class PromiseTests {
     }
 
     private static void unstage() {
-        promise = "promise 9";
+        about("promise 9");
         FusedQueries q = over(5, 6, 7);
         due("none", q.unstage(), REFUSED);
         with(q, SKIP, 1, "");
@@ -367,7 +258,7 @@ public final class PromiseTests {
     }
 
     private static void expressions() {
-        promise = "expressions";
+        about("expressions");
         Object[][] rows = {
             {"10-4-3", 0, 3}, {"10-4+3", 0, 9}, {"2+3*4", 0, 14}, {"2*3+4", 0, 10}, {"(2+3)*4", 0, 20}, {"100/7/2", 0, 7}, {"100%7*3", 0, 6},
             {"7&3+1", 0, 4}, {"1+7&3", 0, 0}, {"12&10", 0, 8}, {"6&3*2", 0, 6}, {"x-1&3", 8, 3}, {"-7/2", 0, -3}, {"-7%3", 0, -1}, {"7/-2", 0, -3}, {"7%-3", 0, 1},
@@ -392,7 +283,7 @@ public final class PromiseTests {
     }
 
     private static void kinds() {
-        promise = "kinds";
+        about("kinds");
         int[] a = ints(5, 3, 8, 1, 9, 2, 7, 3);
         FusedQueries q = with(over(a), WHERE, 0, "x<4");
         due("WHERE", list(q, 5), "4: 3 1 2 3 0");
@@ -544,7 +435,7 @@ public final class PromiseTests {
     }
 
     private static void run() {
-        promise = "promise 10";
+        about("promise 10");
         FusedQueries q = over(5, -3, 8, 1);
         due("COUNT", q.run(COUNT, 9), 4);
         due("SUM", q.run(SUM, 9), 11);
@@ -645,7 +536,7 @@ public final class PromiseTests {
     }
 
     private static void applied() {
-        promise = "promise 11";
+        about("promise 11");
         FusedQueries q = with(with(over(1, 2, 3), SELECT, 0, "x"), WHERE, 0, "1<x");
         due("no run", costs(q, 2), "applied 0 0, read 0 0 0");
         q.run(COUNT, 0);
@@ -673,7 +564,7 @@ public final class PromiseTests {
     }
 
     private static void read() {
-        promise = "promise 12";
+        about("promise 12");
         FusedQueries q = within(150, ints(1, 2, 3), ints(4, 5), ints(6));
         due("no run", q.read(0), 0);
         with(with(with(q, ZIP, 1, "x+y"), THEN, 2, ""), MATCH, 0, "");
@@ -689,7 +580,7 @@ public final class PromiseTests {
     }
 
     private static void seen() {
-        promise = "promise 13";
+        about("promise 13");
         int[] many = new int[24];
         for (int i = 0; i < 24; i++) {
             many[i] = i * 3 + 1;
@@ -718,7 +609,7 @@ public final class PromiseTests {
     }
 
     private static void failed() {
-        promise = "promise 14";
+        about("promise 14");
         FusedQueries q = over(1, 0);
         due("no run", q.failed(), -1);
         with(with(with(q, SELECT, 0, "x"), TAKE, 5, ""), WHERE, 0, "1%x");
@@ -739,7 +630,7 @@ public final class PromiseTests {
     }
 
     private static void order() {
-        promise = "promise 15";
+        about("promise 15");
         FusedQueries q = within(150, new int[24], new int[24], new int[24]);
         for (int list : ints(-1, 3, MIN, MAX)) {
             due("REFUSED before FULL", q.append(list, 1), REFUSED);
@@ -767,9 +658,6 @@ public final class PromiseTests {
         seen();
         failed();
         order();
-        System.out.println("PromiseTests: " + asked + " answers looked at, " + wrong + " wrong");
-        if (wrong != 0) {
-            System.exit(1);
-        }
+        end("PromiseTests");
     }
 }
