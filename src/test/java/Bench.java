@@ -126,6 +126,14 @@ abstract class Bench {
         return text.toString();
     }
 
+    static void runDue(FusedQueries q, int terminal, int c, long want) {
+        due("terminal " + terminal + " " + c, name(q.run(terminal, c)), name(want));
+    }
+
+    static void costsDue(FusedQueries q, int stages, String want) {
+        due("costs", costs(q, stages), want);
+    }
+
     static long value(String text, int x) {
         FusedQueries q = with(over(x), SELECT, 0, text);
         return q.run(LAST, 0);
