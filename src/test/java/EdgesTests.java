@@ -376,6 +376,12 @@ public final class EdgesTests extends Bench {
                 due("stage of kind " + kind, stage(q, kind, 0, "x"), kind == SELECT ? 1 : REFUSED);
                 due("place behind it", q.place(), -1);
             }
+            for (int kind : ints(TAKE, SKIP, REPEAT, DISTINCT, THEN, MATCH, PAIRS, REVERSED)) {
+                FusedQueries without = new FusedQueries(20);
+                due("stage with tokens", stage(without, kind, 1, "x"), WRONG);
+                due("stage of kind " + kind, without.stage(kind, 1), 1);
+                due("place behind it", without.place(), -1);
+            }
             FusedQueries full = eightStages();
             stage(full, SELECT, 0, "x+");
             due("place behind FULL", full.place(), -1);
