@@ -461,6 +461,7 @@ public final class FusedQueries {
                     seenCount++;
                 }
                 return seenCount;
+            case LAST:
             default:
                 return element;
         }
